@@ -1,12 +1,17 @@
+import java.lang.reflect.Field;
+import java.util.List;
+
 /** Promises 5, 11 and 16: what a card answers, what it writes, and where it loses power. */
 public final class CardTest {
-    public static void main(String[] args) {
+    public static void main(String[] args) throws ReflectiveOperationException {
         begin();
+        counterAtItsEnd();
         rightAndWrongPins();
         withoutTries();
         asked();
         askedWithoutHost();
         wayInAnswers();
+        sealsOfTwoCards();
         end();
         endRefused();
         stages();
@@ -44,6 +49,26 @@ public final class CardTest {
             tellsOf("BEGIN", rig, i, 3, 0, 1);
             rig.dropAll();
         }
+    }
+
+    /** No run of calls comes so far, so the counter is set behind the object's back. */
+    private static void counterAtItsEnd() throws ReflectiveOperationException {
+        Rig rig = oneCard(100, 1);
+        Object card = ((List<?>) part(part(rig.x, "world"), "cards")).get(0);
+        Field counter = card.getClass().getDeclaredField("counter");
+        counter.setAccessible(true);
+        counter.setInt(card, 59999);
+        Due.is("BEGIN at 59999", rig.begin(0, 5), 1);
+        Due.is("CARD counter", rig.newest(Rig.F_COUNTER), 60000);
+        rig.ask(0, 10, 5, 0, 1);
+        Due.is("BEGIN at 60000", rig.begin(0, 5), 0);
+        tellsOf("BEGIN at 60000", rig, 60000, 3, 0, 2);
+    }
+
+    private static Object part(Object owner, String name) throws ReflectiveOperationException {
+        Field field = owner.getClass().getDeclaredField(name);
+        field.setAccessible(true);
+        return field.get(owner);
     }
 
     private static void rightAndWrongPins() {
@@ -131,6 +156,19 @@ public final class CardTest {
             Due.is("ANSWER way", rig.newest(Rig.F_WAY), way);
             Due.is("ANSWER counter", rig.newest(Rig.F_COUNTER), 1);
         }
+    }
+
+    /** Two cards seal the same row: each has a seal of its own. */
+    private static void sealsOfTwoCards() {
+        Rig rig = oneCard(100, 1);
+        rig.x.card(1, 100, 1, 100);
+        rig.begin(0, 5);
+        rig.begin(1, 5);
+        rig.ask(0, 10, 5, 0, 1);
+        Due.is("the seal of card 0", rig.newest(Rig.F_SEAL), 3);
+        rig.ask(1, 10, 5, 0, 1);
+        Due.is("the seal of card 1", rig.newest(Rig.F_SEAL), 4);
+        Due.is("P14 seals", rig.x.count(4), 4);
     }
 
     /** A card that answered 2 once, and then 1; the END with the host's word waits. */

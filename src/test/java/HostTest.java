@@ -229,20 +229,18 @@ public final class HostTest {
         String[] names = {"card", "counter", "amount", "un", "terminal", "way", "answer"};
         for (String name : names) {
             Rig rig = twoDebits();
-            Object debit = listIn(part(rig.x, "host"), "debits").get(1);
-            Field field = debit.getClass().getDeclaredField(name);
-            field.setAccessible(true);
-            if (field.getType() == long.class) {
-                field.setLong(debit, field.getLong(debit) + 1000);
-            } else {
-                field.setInt(debit, field.getInt(debit) + 1000);
-            }
+            raise(listIn(part(rig.x, "host"), "debits").get(1), name);
             Due.is("P21 another " + name, rig.x.matched(), false);
         }
         Rig twice = twoDebits();
         List<Object> debits = listIn(part(twice.x, "host"), "debits");
         debits.add(debits.get(0));
         Due.is("P21 two debits of a counter", twice.x.matched(), false);
+        for (String name : new String[] {"terminal", "amount", "un"}) {
+            Rig rig = twoDebits();
+            raise(listIn(part(rig.x, "world"), "purchases").get(0), name);
+            Due.is("P21 no purchase with its " + name, rig.x.matched(), false);
+        }
         Rig bought = twoDebits();
         List<Object> purchases = listIn(part(bought.x, "world"), "purchases");
         purchases.add(purchases.get(0));
@@ -263,6 +261,16 @@ public final class HostTest {
         Due.is("P21 two debits", rig.x.count(3), 2);
         Due.is("P21 matched", rig.x.matched(), true);
         return rig;
+    }
+
+    private static void raise(Object payment, String name) throws ReflectiveOperationException {
+        Field field = payment.getClass().getDeclaredField(name);
+        field.setAccessible(true);
+        if (field.getType() == long.class) {
+            field.setLong(payment, field.getLong(payment) + 1000);
+        } else {
+            field.setInt(payment, field.getInt(payment) + 1000);
+        }
     }
 
     private static Object part(Object owner, String name) throws ReflectiveOperationException {

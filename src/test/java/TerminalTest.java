@@ -13,7 +13,11 @@ public final class TerminalTest {
         answersWithoutHost();
         request();
         word();
+        wordOfAnotherPurchase();
+        wordOfAnotherCard();
+        wordOfAnotherTerminal();
         last();
+        lastThatWasRefused();
         lastOfTwoTerminals();
         ticks();
         tickRefused();
@@ -83,6 +87,7 @@ public final class TerminalTest {
         Due.is(name + " is taken", rig.x.deliver(0), 1);
         rig.deliverAll();
         Due.is(name, rig.x.outcome(0), outcome);
+        Due.is(name + ", debits", rig.x.count(3), kind == Rig.LAST || outcome == 1 ? 1 : 0);
     }
 
     private static void cardMessage() {
@@ -253,13 +258,63 @@ public final class TerminalTest {
         Due.is("END has it", seal.field(0, Rig.F_SEAL), 999);
         seal.deliverAll();
         Due.is("refused by the card", seal.x.outcome(0), 3);
-        Rig old = Rig.with(Rig.WORD);
-        old.x.purchase(0, 0, 90, 1234);
-        old.x.drop(0);
-        old.deliver(7);
-        old.row(Rig.WORD, Rig.F_CARD, 0, Rig.F_COUNTER, 1, Rig.F_SEAL, 4, Rig.F_WORD, 1, Rig.F_MAC, 5);
-        old.x.inject(2, 0, 1, 0);
-        Due.is("a WORD of the purchase before", old.x.deliver(1), 0);
+    }
+
+    private static int feedWord(Rig rig, int terminal, int card, int counter, int seal, int mac) {
+        return rig.feedTerminal(terminal, Rig.WORD, Rig.F_CARD, card, Rig.F_COUNTER, counter, Rig.F_SEAL, seal,
+            Rig.F_WORD, 1, Rig.F_MAC, mac);
+    }
+
+    /** The WORD of counter 1 and 90 cents, with the seal 4 and the mac 5, comes to the purchase behind. */
+    private static void wordOfAnotherPurchase() {
+        for (int amount = 90; amount <= 91; amount++) {
+            Rig rig = Rig.with(Rig.WORD);
+            rig.x.drop(0);
+            rig.x.purchase(0, 0, amount, 1234);
+            rig.deliver(6);
+            Due.is("a WORD of the purchase before", feedWord(rig, 0, 0, 1, 4, 5), 0);
+            Due.is("the same with the counter of this one", feedWord(rig, 0, 0, 2, 4, 5), 0);
+            rig.x.drop(0);
+            rig.x.purchase(0, 0, amount, 1234);
+            rig.deliver(5);
+            rig.change(0, Rig.F_COUNTER, 1);
+            rig.deliver(1);
+            Due.is("a WORD of the same counter", feedWord(rig, 0, 0, 1, 4, 5), amount == 90 ? 1 : 0);
+        }
+    }
+
+    private static void wordOfAnotherCard() {
+        Rig rig = Rig.with(Rig.WORD);
+        rig.x.card(1234, 100, 1, 500);
+        rig.x.drop(0);
+        rig.x.purchase(0, 1, 90, 1234);
+        rig.deliver(6);
+        Due.is("REQUEST of the other card's first counter", rig.field(0, Rig.F_COUNTER), 1);
+        Due.is("a WORD for another card", feedWord(rig, 0, 0, 1, 4, 5), 0);
+        Due.is("the same with the number of this card", feedWord(rig, 0, 1, 1, 4, 5), 0);
+    }
+
+    private static void wordOfAnotherTerminal() {
+        Rig rig = Rig.with(Rig.WORD);
+        rig.x.terminal(50, 80);
+        rig.x.drop(0);
+        rig.x.purchase(1, 0, 90, 1234);
+        rig.deliver(5);
+        rig.change(0, Rig.F_COUNTER, 1);
+        rig.deliver(1);
+        Due.is("a WORD for another terminal", feedWord(rig, 1, 0, 1, 4, 5), 0);
+        Due.is("it waits", rig.x.outcome(1), 0);
+    }
+
+    /** The card was told a word of 0, but its LAST 0 comes as 2. */
+    private static void lastThatWasRefused() {
+        Rig rig = Rig.with(Rig.END);
+        rig.change(0, Rig.F_WORD, 0);
+        rig.deliver(1);
+        Due.is("LAST 0", rig.field(0, Rig.F_ANSWER), 0);
+        rig.change(0, Rig.F_ANSWER, 2);
+        rig.deliver(1);
+        Due.is("refused, though its word was 1", rig.x.outcome(0), 3);
     }
 
     private static void last() {

@@ -1,0 +1,216 @@
+import java.util.ArrayList;
+import java.util.List;
+import java.util.Random;
+
+/** All promises together: long runs of drawn calls, each answered as the plain model answers it. */
+public final class ModelTest {
+    private static final int RUNS = 300;
+    private static final int CALLS = 512;
+    private static final long[] reached = new long[8];
+
+    private final Random random;
+    private final CardPayments x = new CardPayments();
+    private final PlainModel model = new PlainModel();
+    private final List<int[]> seen = new ArrayList<>();
+    private final String name;
+    private final boolean crowded;
+    private int calls = 0;
+
+    private ModelTest(int seed) {
+        random = new Random(seed);
+        name = "run " + seed;
+        crowded = seed % 6 == 5;
+    }
+
+    public static void main(String[] args) {
+        for (int seed = 0; seed < RUNS; seed++) {
+            new ModelTest(seed).run();
+        }
+        for (int outcome = 0; outcome <= 4; outcome++) {
+            Due.is("outcome " + outcome + " is reached", reached[outcome] > 10, true);
+        }
+        Due.is("debits by REQUEST are reached", reached[5] > 100, true);
+        Due.is("debits by CLEAR are reached", reached[6] > 100, true);
+        Due.is("full wires are reached", reached[7] > 0, true);
+        Due.end();
+    }
+
+    private void run() {
+        int cards = 1 + random.nextInt(3);
+        int terminals = 1 + random.nextInt(3);
+        for (int i = 0; i < cards; i++) {
+            newCard();
+        }
+        for (int i = 0; i < terminals; i++) {
+            newTerminal();
+        }
+        int mischief = random.nextInt(4);
+        while (calls < CALLS) {
+            step(mischief);
+            calls++;
+            if (calls % 8 == 0) {
+                compareAll();
+            }
+        }
+        compareAll();
+    }
+
+    private void same(String call, long got, long want) {
+        Due.is(name + ", call " + calls + ", " + call, got, want);
+    }
+
+    private void same(String call, boolean got, boolean want) {
+        Due.is(name + ", call " + calls + ", " + call, got, want);
+    }
+
+    private int number(int many) {
+        return random.nextInt(30) == 0 ? random.nextInt(many + 3) - 1 : random.nextInt(Math.max(many, 1));
+    }
+
+    private int place() {
+        return random.nextInt(4) > 0 ? 0 : number(x.count(2));
+    }
+
+    private long amount() {
+        long[] amounts = {1, 10, 50, 51, 80, 100, 101, 300, 1000000000L, 0};
+        return amounts[random.nextInt(amounts.length)];
+    }
+
+    private void newCard() {
+        int pin = 1 + random.nextInt(2);
+        long single = amount();
+        int most = random.nextInt(4);
+        long cents = random.nextInt(3000);
+        same("card", x.card(pin, single, most, cents), model.card(pin, single, most, cents));
+    }
+
+    private void newTerminal() {
+        long floor = amount();
+        long pinFrom = amount();
+        same("terminal", x.terminal(floor, pinFrom), model.terminal(floor, pinFrom));
+    }
+
+    private void step(int mischief) {
+        int draw = random.nextInt(100);
+        if (draw < 64 && crowded && random.nextBoolean()) {
+            again(number(x.count(2)));
+        } else if (draw < 64) {
+            deliver(place());
+        } else if (draw < 76) {
+            purchase();
+        } else if (draw < 80) {
+            int t = number(x.count(1));
+            same("clear " + t, x.clear(t), model.clear(t));
+        } else if (draw < 82 || mischief == 0) {
+            int n = random.nextInt(15);
+            same("tick " + n, x.tick(n), model.tick(n));
+        } else if (draw < 84) {
+            int c = number(x.count(0));
+            int n = random.nextInt(4);
+            same("power", x.power(c, n), model.power(c, n));
+        } else if (draw < 88) {
+            again(number(x.count(2)));
+        } else if (draw < 90 || mischief == 1) {
+            int k = number(x.count(2));
+            same("drop " + k, x.drop(k), model.drop(k));
+        } else if (draw < 94 || mischief == 2) {
+            alter();
+        } else if (draw < 99) {
+            replay();
+        } else if (random.nextBoolean()) {
+            newCard();
+        } else {
+            newTerminal();
+        }
+    }
+
+    private void purchase() {
+        int t = number(x.count(1));
+        int c = number(x.count(0));
+        long amount = amount();
+        int pin = 1 + random.nextInt(2);
+        same("purchase", x.purchase(t, c, amount, pin), model.purchase(t, c, amount, pin));
+    }
+
+    private void deliver(int k) {
+        if (x.count(2) == 60) {
+            reached[7]++;
+        }
+        int size = Math.max(x.message(k, 4), 0);
+        int[] letter = new int[size + 4];
+        for (int i = 0; i < letter.length; i++) {
+            letter[i] = i < 4 ? x.message(k, i) : x.at(k, i - 4);
+        }
+        if (size > 0) {
+            seen.add(letter);
+        }
+        same("deliver " + k, x.deliver(k), model.deliver(k));
+    }
+
+    private void again(int k) {
+        same("again " + k, x.again(k), model.again(k));
+    }
+
+    private void alter() {
+        int k = place();
+        int i = random.nextInt(4) > 0 ? 2 + random.nextInt(16) : number(x.message(k, 4));
+        int v = random.nextInt(4) > 0 ? random.nextInt(4) : random.nextInt(258) - 1;
+        same("alter", x.alter(k, i, v), model.alter(k, i, v));
+    }
+
+    /** A message that came before, now and then changed, comes again, now and then to others. */
+    private void replay() {
+        if (seen.isEmpty()) {
+            return;
+        }
+        int back = Math.min(seen.size(), random.nextBoolean() ? 8 : 200);
+        int[] letter = seen.get(seen.size() - 1 - random.nextInt(back)).clone();
+        if (random.nextInt(3) == 0) {
+            letter[4 + random.nextInt(letter.length - 4)] = random.nextInt(3);
+        }
+        for (int i = 4; i < letter.length; i++) {
+            same("put", x.put(letter[i]), model.put(letter[i]));
+        }
+        int part = random.nextInt(8);
+        if (part < 4) {
+            letter[part] = random.nextInt(3);
+        }
+        same("inject", x.inject(letter[0], letter[1], letter[2], letter[3]),
+            model.inject(letter[0], letter[1], letter[2], letter[3]));
+    }
+
+    private void compareAll() {
+        for (int what = -1; what <= 6; what++) {
+            same("count " + what, x.count(what), model.count(what));
+        }
+        for (int t = -1; t <= x.count(1); t++) {
+            same("outcome " + t, x.outcome(t), model.outcome(t));
+            if (t >= 0 && t < x.count(1)) {
+                reached[x.outcome(t)]++;
+            }
+        }
+        for (int c = -1; c <= x.count(0); c++) {
+            same("account " + c, x.account(c), model.account(c));
+            for (int what = -1; what <= 4; what++) {
+                same("told " + c + ", " + what, x.told(c, what), model.told(c, what));
+            }
+        }
+        for (int k = -1; k <= x.count(3); k++) {
+            for (int what = -1; what <= 7; what++) {
+                same("debit " + k + ", " + what, x.debit(k, what), model.debit(k, what));
+            }
+            if (x.debit(k, 6) > 0) {
+                reached[4 + (int) x.debit(k, 6)]++;
+            }
+        }
+        for (int k = -1; k <= x.count(2); k++) {
+            for (int what = -1; what <= 5; what++) {
+                same("message " + k + ", " + what, x.message(k, what), model.message(k, what));
+            }
+            for (int i = -1; i <= x.message(k, 4); i++) {
+                same("at " + k + ", " + i, x.at(k, i), model.at(k, i));
+            }
+        }
+        same("matched", x.matched(), model.matched());
+    }
+}
