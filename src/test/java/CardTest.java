@@ -14,6 +14,7 @@ public final class CardTest {
         sealsOfTwoCards();
         end();
         endRefused();
+        lastAtTwoCounters();
         stages();
         powerAtBegin();
         powerAtPin();
@@ -212,6 +213,21 @@ public final class CardTest {
         rig.ask(0, 40, 1, 0, 1);
         rig.feedCard(0, Rig.END, Rig.F_SEAL, seal, Rig.F_WORD, 1);
         Due.is("a word for another counter", rig.newest(Rig.F_ANSWER), 0);
+    }
+
+    /** The same amount, un and terminal at two counters: each LAST has a seal of its own. */
+    private static void lastAtTwoCounters() {
+        Rig rig = oneCard(100, 1);
+        long[] seals = new long[2];
+        for (int i = 0; i < 2; i++) {
+            rig.begin(0, 5);
+            rig.ask(0, 10, 5, 0, 1);
+            rig.feedCard(0, Rig.END, Rig.F_SEAL, 0, Rig.F_WORD, 0);
+            Due.is("LAST 0", rig.newest(Rig.F_ANSWER), 0);
+            seals[i] = rig.newest(Rig.F_SEAL);
+        }
+        Due.is("the seal of the first LAST", seals[0], 3);
+        Due.is("the seal of the second LAST", seals[1], 6);
     }
 
     private static void stages() {
