@@ -1,28 +1,36 @@
-import java.lang.reflect.Field;
-import java.util.List;
-
-/** Promises 5, 11 and 16: what a card answers, what it writes, and where it loses power. */
+/** "Terms", the part A CARD: its tries, counter, row and stage, and what it answers to each kind. */
 public final class CardTest {
-    public static void main(String[] args) throws ReflectiveOperationException {
-        begin();
+    private static final String PART = "Terms, A CARD";
+
+    public static void main(String[] args) {
+        threeTries();
+        stageAtFirst();
+        writtenStays();
+        stageDoesNotStay();
+        counterBelowItsEnd();
         counterAtItsEnd();
-        rightAndWrongPins();
-        withoutTries();
-        asked();
-        askedWithoutHost();
-        wayInAnswers();
-        sealsOfTwoCards();
-        end();
+        beginInEachStage();
+        beginAnswers();
+        pinOnlyInStageOne();
+        pinWithoutTries();
+        wrongPins();
+        rightPins();
+        pinsOfTwoBytes();
+        askOnlyInStageOne();
+        askWithoutTries();
+        zeroIsAsked();
+        amountAtMostSingle();
+        rowBelowMost();
+        otherwiseOne();
+        answerHasItsWay();
+        stageAfterAnswer();
+        unAndTerminalAsAsked();
+        endOnlyInStageTwo();
+        endApproved();
         endRefused();
-        lastAtTwoCounters();
-        stages();
-        powerAtBegin();
-        powerAtPin();
-        powerAtAsk();
-        powerAtEnd();
-        powerCounts();
-        powerRefused();
-        told();
+        endWithSealOfOthers();
+        stageAfterEnd();
+        lastIsSealedWithItsCounter();
         Due.end();
     }
 
@@ -33,331 +41,493 @@ public final class CardTest {
         return rig;
     }
 
-    private static void tellsOf(String name, Rig rig, int counter, int tries, int row, int stage) {
-        Due.is(name + " counter", rig.x.told(0, 0), counter);
-        Due.is(name + " tries", rig.x.told(0, 1), tries);
-        Due.is(name + " row", rig.x.told(0, 2), row);
-        Due.is(name + " stage", rig.x.told(0, 3), stage);
-    }
-
-    private static void begin() {
-        Rig rig = oneCard(100, 1);
-        for (int i = 1; i <= 300; i++) {
-            Due.is("BEGIN", rig.begin(0, 4294967295L), 1);
-            Due.is("CARD card", rig.newest(Rig.F_CARD), 0);
-            Due.is("CARD counter", rig.newest(Rig.F_COUNTER), i);
-            Due.is("CARD seal", rig.newest(Rig.F_SEAL), i);
-            tellsOf("BEGIN", rig, i, 3, 0, 1);
-            rig.dropAll();
-        }
-    }
-
-    /** No run of calls comes so far, so the counter is set behind the object's back. */
-    private static void counterAtItsEnd() throws ReflectiveOperationException {
-        Rig rig = oneCard(100, 1);
-        Object card = ((List<?>) part(part(rig.x, "world"), "cards")).get(0);
-        Field counter = card.getClass().getDeclaredField("counter");
-        counter.setAccessible(true);
-        counter.setInt(card, 59999);
-        Due.is("BEGIN at 59999", rig.begin(0, 5), 1);
-        Due.is("CARD counter", rig.newest(Rig.F_COUNTER), 60000);
-        rig.ask(0, 10, 5, 0, 1);
-        Due.is("BEGIN at 60000", rig.begin(0, 5), 0);
-        tellsOf("BEGIN at 60000", rig, 60000, 3, 0, 2);
-    }
-
-    private static Object part(Object owner, String name) throws ReflectiveOperationException {
-        Field field = owner.getClass().getDeclaredField(name);
-        field.setAccessible(true);
-        return field.get(owner);
-    }
-
-    private static void rightAndWrongPins() {
-        Rig rig = oneCard(100, 1);
-        Due.is("PIN in stage 0", rig.pin(0, 1234), 0);
-        Due.is("no try is gone", rig.x.told(0, 1), 3);
-        rig.begin(0, 5);
-        Due.is("a wrong PIN", rig.pin(0, 1235), 1);
-        Due.is("PINNED 0", rig.newest(Rig.F_WAY), 0);
-        tellsOf("a wrong PIN", rig, 1, 2, 0, 1);
-        rig.pin(0, 1233);
-        Due.is("PINNED 0", rig.newest(Rig.F_WAY), 0);
-        tellsOf("two wrong PINs", rig, 1, 1, 0, 1);
-        Due.is("the right PIN", rig.pin(0, 1234), 1);
-        Due.is("PINNED 1", rig.newest(Rig.F_WAY), 1);
-        tellsOf("the right PIN", rig, 1, 3, 0, 1);
-        rig.pin(0, 1234 + 32768);
-        Due.is("a PIN beyond 9999", rig.newest(Rig.F_WAY), 0);
-    }
-
-    private static void withoutTries() {
+    private static Rig begun() {
         Rig rig = oneCard(100, 1);
         rig.begin(0, 5);
+        rig.dropAll();
+        return rig;
+    }
+
+    private static Rig withoutTries() {
+        Rig rig = begun();
         for (int i = 0; i < 3; i++) {
             rig.pin(0, 1);
         }
-        tellsOf("three wrong PINs", rig, 1, 0, 0, 1);
-        Due.is("the right PIN is too late", rig.pin(0, 1234), 1);
-        Due.is("PINNED 2", rig.newest(Rig.F_WAY), 2);
-        tellsOf("without tries", rig, 1, 0, 0, 1);
-        rig.ask(0, 10, 5, 0, 1);
-        Due.is("ANSWER 0 without tries", rig.newest(Rig.F_ANSWER), 0);
-        Due.is("way 2", rig.newest(Rig.F_WAY), 2);
-        tellsOf("ANSWER 0", rig, 1, 0, 0, 0);
-        rig.begin(0, 5);
-        rig.ask(0, 10, 5, 0, 2);
-        Due.is("ANSWER 0 though 2 is asked", rig.newest(Rig.F_ANSWER), 0);
-        Due.is("way 0 after a new BEGIN", rig.newest(Rig.F_WAY), 0);
-        tellsOf("tries stay", rig, 2, 0, 0, 0);
-    }
-
-    private static int answerTo(long single, int most, long amount, int wanted) {
-        Rig rig = oneCard(single, most);
-        rig.begin(0, 5);
-        Due.is("ASK", rig.ask(0, amount, 5, 0, wanted), 1);
-        Due.is("ANSWER", rig.newestKind(), Rig.ANSWER);
-        int answer = (int) rig.newest(Rig.F_ANSWER);
-        tellsOf("ASK", rig, 1, 3, answer == 2 ? 1 : 0, answer == 1 ? 2 : 0);
-        return answer;
-    }
-
-    private static void asked() {
-        Due.is("0 asked", answerTo(100, 9, 10, 0), 0);
-        Due.is("1 asked", answerTo(100, 9, 10, 1), 1);
-        Due.is("2 asked", answerTo(100, 9, 10, 2), 2);
-        Due.is("3 asked", answerTo(100, 9, 10, 3), 1);
-        Due.is("255 asked", answerTo(100, 9, 10, 255), 1);
-        Due.is("at SINGLE", answerTo(100, 9, 100, 2), 2);
-        Due.is("above SINGLE", answerTo(100, 9, 101, 2), 1);
-        Due.is("far above SINGLE", answerTo(1000000000L, 9, 1L << 39, 2), 1);
-        Due.is("MOST 0", answerTo(100, 0, 10, 2), 1);
-        Due.is("MOST 1", answerTo(100, 1, 10, 2), 2);
-        Due.is("amount 0", answerTo(0, 1, 0, 2), 2);
-    }
-
-    private static void askedWithoutHost() {
-        Rig rig = oneCard(100, 2);
-        for (int i = 1; i <= 3; i++) {
-            rig.begin(0, i);
-            rig.ask(0, 10, i, 0, 2);
-            Due.is("the row has an end", rig.newest(Rig.F_ANSWER), i <= 2 ? 2 : 1);
-            tellsOf("the row", rig, i, 3, Math.min(i, 2), i <= 2 ? 0 : 2);
-        }
-    }
-
-    private static void wayInAnswers() {
-        int[] pins = {-1, 1234, 1};
-        for (int way = 0; way < 3; way++) {
-            Rig rig = oneCard(100, 2);
-            rig.begin(0, 9);
-            if (way > 0) {
-                rig.pin(0, pins[way]);
-            }
-            rig.ask(0, 10, 9, 0, 1);
-            Due.is("ANSWER way", rig.newest(Rig.F_WAY), way);
-            Due.is("ANSWER counter", rig.newest(Rig.F_COUNTER), 1);
-        }
-    }
-
-    /** Two cards seal the same row: each has a seal of its own. */
-    private static void sealsOfTwoCards() {
-        Rig rig = oneCard(100, 1);
-        rig.x.card(1, 100, 1, 100);
-        rig.begin(0, 5);
-        rig.begin(1, 5);
-        rig.ask(0, 10, 5, 0, 1);
-        Due.is("the seal of card 0", rig.newest(Rig.F_SEAL), 3);
-        rig.ask(1, 10, 5, 0, 1);
-        Due.is("the seal of card 1", rig.newest(Rig.F_SEAL), 4);
-        Due.is("P14 seals", rig.x.count(4), 4);
+        rig.dropAll();
+        rig.cardIs("three wrong PINs", 1, 0, 0, 1);
+        return rig;
     }
 
     /** A card that answered 2 once, and then 1; the END with the host's word waits. */
-    private static Rig beforeEnd() {
-        Rig rig = new Rig();
-        rig.x.card(1234, 100, 1, 500);
-        rig.x.terminal(50, 80);
+    static Rig beforeEnd() {
+        Rig rig = Rig.usual();
         rig.x.purchase(0, 0, 40, 0);
         rig.deliver(4);
         rig.x.purchase(0, 0, 40, 0);
         rig.deliver(6);
-        tellsOf("before END", rig, 2, 3, 1, 2);
+        Due.is("END waits", rig.x.at(0, 0), Rig.END);
+        rig.cardIs("before END", 2, 3, 1, 2);
         return rig;
     }
 
-    private static void end() {
+    private static void threeTries() {
+        Due.sentence(PART, "3 TRIES at most");
+        Rig rig = oneCard(100, 1);
+        rig.cardIs("a new card", 0, 3, 0, 0);
+        rig.begin(0, 5);
+        rig.pin(0, 1234);
+        rig.cardIs("the right PIN with all tries", 1, 3, 0, 1);
+        rig.pin(0, 1);
+        rig.pin(0, 1234);
+        rig.pin(0, 1234);
+        rig.cardIs("right PINs again", 1, 3, 0, 1);
+    }
+
+    private static void stageAtFirst() {
+        Due.sentence(PART, "its STAGE (0 at first)");
+        Rig rig = oneCard(100, 1);
+        Due.is("stage", rig.x.told(0, 3), 0);
+        Due.is("PIN", rig.pin(0, 1234), 0);
+        Due.is("ASK", rig.ask(0, 1, 1, 0, 1), 0);
+        Due.is("END", rig.end(0, 1, 1), 0);
+        Due.is("nothing is answered", rig.x.count(2), 0);
+    }
+
+    private static void writtenStays() {
+        Due.sentence(PART, "are WRITTEN one by one, and stay when power is lost");
+        Rig rig = oneCard(100, 2);
+        rig.begin(0, 5);
+        rig.pin(0, 1);
+        rig.ask(0, 10, 5, 0, 2);
+        rig.begin(0, 5);
+        rig.cardIs("before", 2, 2, 1, 1);
+        rig.x.power(0, 0);
+        rig.pin(0, 1234);
+        rig.cardIs("after", 2, 2, 1, 0);
+        rig.begin(0, 5);
+        rig.pin(0, 1234);
+        Due.is("its PIN stays, too", rig.newest(Rig.F_WAY), 1);
+    }
+
+    private static void stageDoesNotStay() {
+        Due.sentence(PART, "its STAGE (0 at first), un, way and numbers do not (they are 0 then)");
+        Rig rig = oneCard(100, 2);
+        rig.begin(0, 5);
+        rig.pin(0, 1234);
+        rig.x.power(0, 0);
+        rig.ask(0, 10, 5, 0, 2);
+        Due.is("stage", rig.x.told(0, 3), 0);
+        Due.is("ASK is thrown away", rig.ask(0, 10, 5, 0, 1), 0);
+        Due.is("PIN is thrown away", rig.pin(0, 1234), 0);
+        rig.begin(0, 5);
+        rig.ask(0, 10, 5, 0, 1);
+        Due.is("way", rig.newest(Rig.F_WAY), 0);
+        Due.is("END is for what is asked now", rig.end(0, 1, 0), 1);
+    }
+
+    /** No run of 512 calls comes so far. */
+    private static Rig withCounter(int counter) {
+        Rig rig = oneCard(100, 1);
+        if (!Inside.isKnown(rig.x)) {
+            return null;
+        }
+        Inside.set(Inside.card(rig.x, 0), "counter", counter);
+        return rig;
+    }
+
+    private static void counterBelowItsEnd() {
+        Due.sentence(PART, "BEGIN, if the counter is below 60000");
+        int[] counters = {0, 254, 255, 256, 32767, 32768, 59998, 59999};
+        for (int counter : counters) {
+            Rig rig = withCounter(counter);
+            if (rig == null) {
+                return;
+            }
+            Due.is("BEGIN at " + counter, rig.begin(0, 5), 1);
+            Due.is("CARD", rig.newest(Rig.F_COUNTER), counter + 1);
+            rig.cardIs("then", counter + 1, 3, 0, 1);
+            rig.ask(0, 10, 5, 0, 1);
+            Due.is("ANSWER", rig.newest(Rig.F_COUNTER), counter + 1);
+        }
+    }
+
+    private static void counterAtItsEnd() {
+        Due.sentence("Terms, the last lines", "a BEGIN at 60000 is thrown away");
+        for (int stage = 0; stage <= 2; stage++) {
+            Rig rig = withCounter(59999);
+            if (rig == null) {
+                return;
+            }
+            Due.is("BEGIN at 59999", rig.begin(0, 5), 1);
+            if (stage != 1) {
+                rig.ask(0, 10, 5, 0, stage == 0 ? 0 : 1);
+            }
+            rig.dropAll();
+            rig.x.power(0, 0);
+            Due.is("BEGIN at 60000", rig.begin(0, 5), 0);
+            Due.is("nothing is answered", rig.x.count(2), 0);
+            rig.cardIs("it stays as it was", 60000, 3, 0, stage);
+        }
+    }
+
+    private static void beginInEachStage() {
+        Due.sentence(PART, "(in whatever stage the card is): it writes the counter, 1 more; stage 1, way 0");
+        for (int stage = 0; stage <= 2; stage++) {
+            Rig rig = oneCard(100, 1);
+            if (stage > 0) {
+                rig.begin(0, 5);
+                rig.pin(0, 1234);
+            }
+            if (stage > 1) {
+                rig.ask(0, 10, 5, 0, 1);
+            }
+            Due.is("stage", rig.x.told(0, 3), stage);
+            Due.is("BEGIN in stage " + stage, rig.begin(0, 6), 1);
+            rig.cardIs("then", stage > 0 ? 2 : 1, 3, 0, 1);
+            rig.ask(0, 10, 6, 0, 1);
+            Due.is("way", rig.newest(Rig.F_WAY), 0);
+        }
+    }
+
+    private static void beginAnswers() {
+        Due.sentence(PART, "answers CARD with its number, its counter, and its seal of 2, card, counter, un");
+        Rig rig = new Rig();
+        for (int card = 0; card < 16; card++) {
+            rig.x.card(0, 0, 0, 0);
+        }
+        rig.x.terminal(0, 0);
+        for (int card = 0; card < 16; card += 15) {
+            long un = rig.x.purchase(0, card, 1, 0);
+            rig.deliver(1);
+            Due.is("card", rig.newest(Rig.F_CARD), card);
+            Due.is("counter", rig.newest(Rig.F_COUNTER), 1);
+            Due.is("CARD is taken", rig.x.deliver(0), 1);
+            Due.is("its seal is good", rig.x.outcome(0), 0);
+            rig.dropAll();
+            rig.begin(card, un + 1);
+            rig.x.purchase(0, card, 1, 0);
+            Due.is("CARD for another un is taken", rig.x.deliver(0), 1);
+            Due.is("its seal is not good", rig.x.outcome(0), 3);
+            rig.dropAll();
+        }
+    }
+
+    private static void pinOnlyInStageOne() {
+        Due.sentence(PART, "PIN, in stage 1");
+        Rig rig = oneCard(100, 1);
+        Due.is("in stage 0", rig.pin(0, 1), 0);
+        rig.cardIs("no try is gone", 0, 3, 0, 0);
+        rig.begin(0, 5);
+        Due.is("in stage 1", rig.pin(0, 1), 1);
+        rig.ask(0, 10, 5, 0, 1);
+        Due.is("in stage 2", rig.pin(0, 1234), 0);
+        rig.cardIs("no try is back", 1, 2, 0, 2);
+        rig.begin(0, 5);
+        rig.ask(0, 10, 5, 0, 2);
+        Due.is("in stage 0 again", rig.pin(0, 1234), 0);
+        rig.cardIs("no try is back", 2, 2, 1, 0);
+    }
+
+    private static void pinWithoutTries() {
+        Due.sentence(PART, "without tries left: PINNED 2, way 2");
+        int[] pins = {1234, 1};
+        for (int pin : pins) {
+            Rig rig = withoutTries();
+            rig.x.power(0, 0);
+            Due.is("it is taken", rig.pin(0, pin), 1);
+            Due.is("PINNED 2, and nothing is written", rig.newest(Rig.F_WAY), 2);
+            rig.cardIs("no try is left", 1, 0, 0, 1);
+            rig.ask(0, 10, 5, 0, 1);
+            Due.is("way 2", rig.newest(Rig.F_WAY), 2);
+        }
+        Rig later = withoutTries();
+        later.begin(0, 5);
+        later.cardIs("a new BEGIN brings no tries", 2, 0, 0, 1);
+        later.pin(0, 1234);
+        Due.is("PINNED 2 after a new BEGIN", later.newest(Rig.F_WAY), 2);
+        later.ask(0, 10, 5, 0, 1);
+        Due.is("way 2 after a new BEGIN", later.newest(Rig.F_WAY), 2);
+    }
+
+    private static void wrongPins() {
+        Due.sentence(PART, "Otherwise it writes tries, 1 less");
+        Rig rig = begun();
+        for (int left = 2; left >= 0; left--) {
+            Due.is("a wrong PIN", rig.pin(0, 1235), 1);
+            Due.is("PINNED 0", rig.newest(Rig.F_WAY), 0);
+            rig.cardIs("tries left", 1, left, 0, 1);
+        }
+        Rig way = begun();
+        way.pin(0, 1234);
+        way.pin(0, 1233);
+        way.ask(0, 10, 5, 0, 1);
+        Due.is("way 2 after a right and a wrong PIN", way.newest(Rig.F_WAY), 2);
+    }
+
+    private static void rightPins() {
+        Due.sentence(PART, "if it is its PIN, writes tries 3, way 1, PINNED 1");
+        for (int wrong = 0; wrong <= 2; wrong++) {
+            Rig rig = begun();
+            for (int i = 0; i < wrong; i++) {
+                rig.pin(0, 1);
+            }
+            Due.is("the right PIN after wrong ones", rig.pin(0, 1234), 1);
+            Due.is("PINNED 1", rig.newest(Rig.F_WAY), 1);
+            rig.cardIs("all tries are back", 1, 3, 0, 1);
+            rig.ask(0, 10, 5, 0, 1);
+            Due.is("way 1", rig.newest(Rig.F_WAY), 1);
+        }
+    }
+
+    private static void pinsOfTwoBytes() {
+        Due.sentence(PART, "if it is its PIN");
+        int[] pins = {0, 255, 256, 9999};
+        int[] typed = {0, 255, 256, 511, 1270, 9743, 9999, 10000, 32768, 42767, 65535};
+        for (int pin : pins) {
+            for (int what : typed) {
+                Rig rig = new Rig();
+                rig.x.card(pin, 0, 0, 0);
+                rig.x.terminal(0, 0);
+                rig.begin(0, 5);
+                rig.pin(0, what);
+                Due.is("PIN " + pin + " typed " + what, rig.newest(Rig.F_WAY), what == pin ? 1 : 0);
+            }
+        }
+    }
+
+    private static void askOnlyInStageOne() {
+        Due.sentence(PART, "ASK, in stage 1");
+        Rig rig = oneCard(100, 9);
+        Due.is("in stage 0", rig.ask(0, 1, 1, 0, 2), 0);
+        rig.cardIs("nothing is written", 0, 3, 0, 0);
+        rig.begin(0, 1);
+        Due.is("in stage 1", rig.ask(0, 1, 1, 0, 1), 1);
+        Due.is("in stage 2", rig.ask(0, 1, 1, 0, 2), 0);
+        rig.cardIs("nothing is written", 1, 3, 0, 2);
+        rig.begin(0, 1);
+        rig.ask(0, 1, 1, 0, 2);
+        Due.is("in stage 0 again", rig.ask(0, 1, 1, 0, 2), 0);
+        rig.cardIs("nothing more is written", 2, 3, 1, 0);
+    }
+
+    private static int answerTo(Rig rig, long amount, int wanted) {
+        rig.dropAll();
+        Due.is("ASK is taken", rig.ask(0, amount, 5, 0, wanted), 1);
+        Due.is("ANSWER", rig.newestKind(), Rig.ANSWER);
+        return (int) rig.newest(Rig.F_ANSWER);
+    }
+
+    private static void askWithoutTries() {
+        Due.sentence(PART, "It answers 0 without tries");
+        int[] wanted = {0, 1, 2, 3, 255};
+        for (int what : wanted) {
+            Rig rig = withoutTries();
+            Due.is("asked " + what, answerTo(rig, 10, what), 0);
+            rig.cardIs("nothing is written", 1, 0, 0, 0);
+        }
+        Rig last = begun();
+        last.pin(0, 1);
+        last.pin(0, 1);
+        Due.is("with one try left", answerTo(last, 10, 2), 2);
+    }
+
+    private static void zeroIsAsked() {
+        Due.sentence(PART, "or when 0 is asked");
+        Rig rig = begun();
+        Due.is("0 is asked", answerTo(rig, 10, 0), 0);
+        rig.cardIs("nothing is written", 1, 3, 0, 0);
+    }
+
+    private static void amountAtMostSingle() {
+        Due.sentence(PART, "2 when 2 is asked, the amount is at most its SINGLE");
+        long[] singles = {0, 1, 255, 256, 1000000000L};
+        for (long single : singles) {
+            long[] amounts = {0, single - 1, single, single + 1, single + (1L << 32), (1L << 40) - 1};
+            for (long amount : amounts) {
+                if (amount >= 0) {
+                    Rig rig = oneCard(single, 1);
+                    rig.begin(0, 5);
+                    Due.is("SINGLE " + single + ", amount " + amount, answerTo(rig, amount, 2),
+                        amount <= single ? 2 : 1);
+                    rig.cardIs("then", 1, 3, amount <= single ? 1 : 0, amount <= single ? 0 : 2);
+                }
+            }
+        }
+    }
+
+    private static void rowBelowMost() {
+        Due.sentence(PART, "and its row is below its MOST: it writes its row, 1 more");
+        for (int most = 0; most <= 9; most++) {
+            Rig rig = oneCard(100, most);
+            for (int i = 0; i <= most; i++) {
+                rig.begin(0, 5);
+                Due.is("MOST " + most + ", row " + i, answerTo(rig, 10, 2), i < most ? 2 : 1);
+                rig.cardIs("then", i + 1, 3, Math.min(i + 1, most), i < most ? 0 : 2);
+            }
+        }
+    }
+
+    private static void otherwiseOne() {
+        Due.sentence(PART, "otherwise 1");
+        int[] wanted = {1, 3, 4, 127, 128, 255};
+        for (int what : wanted) {
+            Rig rig = begun();
+            Due.is("asked " + what, answerTo(rig, 10, what), 1);
+            rig.cardIs("nothing is written", 1, 3, 0, 2);
+        }
+        Rig wrong = begun();
+        wrong.pin(0, 1);
+        Due.is("1 is asked after a wrong PIN", answerTo(wrong, 10, 1), 1);
+    }
+
+    private static void answerHasItsWay() {
+        Due.sentence(PART, "ANSWER with its counter, its way, the answer");
+        int[] pins = {-1, 1234, 1};
+        for (int way = 0; way < 3; way++) {
+            for (int wanted = 0; wanted <= 2; wanted++) {
+                Rig rig = begun();
+                rig.begin(0, 9);
+                if (way > 0) {
+                    rig.pin(0, pins[way]);
+                }
+                Due.is("answer", answerTo(rig, 10, wanted), wanted);
+                Due.is("way", rig.newest(Rig.F_WAY), way);
+                Due.is("counter", rig.newest(Rig.F_COUNTER), 2);
+            }
+        }
+        Rig two = begun();
+        two.x.card(0, 0, 0, 0);
+        for (int i = 0; i < 4; i++) {
+            two.begin(1, 9);
+        }
+        two.pin(1, 0);
+        two.ask(0, 10, 9, 0, 1);
+        Due.is("its own counter, not another card's", two.newest(Rig.F_COUNTER), 1);
+        Due.is("its own way, not another card's", two.newest(Rig.F_WAY), 0);
+    }
+
+    private static void stageAfterAnswer() {
+        Due.sentence(PART, "Stage 2 for an answer of 1, otherwise 0");
+        for (int wanted = 0; wanted <= 2; wanted++) {
+            Rig rig = begun();
+            Due.is("answer", answerTo(rig, 10, wanted), wanted);
+            Due.is("stage", rig.x.told(0, 3), wanted == 1 ? 2 : 0);
+            Due.is("END", rig.end(0, 1, 0), wanted == 1 ? 1 : 0);
+        }
+    }
+
+    /** The host finds the seal good only with the numbers that were asked. */
+    private static void unAndTerminalAsAsked() {
+        Due.sentence(PART, "(un and terminal as they were asked)");
+        long[][] changes = {{Rig.F_UN, 7}, {Rig.F_UN, 4294967295L}, {Rig.F_TERMINAL, 1}, {Rig.F_TERMINAL, 255},
+            {Rig.F_AMOUNT, 91}, {Rig.F_AMOUNT, (1L << 40) - 1}};
+        for (long[] change : changes) {
+            Rig rig = Rig.with(Rig.ASK);
+            rig.change(0, (int) change[0], change[1]);
+            rig.deliver(3);
+            Due.is("the word to what another asked", rig.newest(Rig.F_WORD), 0);
+        }
+        Rig same = Rig.with(Rig.ASK);
+        same.deliver(3);
+        Due.is("the word to what was asked", same.newest(Rig.F_WORD), 1);
+    }
+
+    private static void endOnlyInStageTwo() {
+        Due.sentence(PART, "END, in stage 2");
+        Rig rig = begun();
+        Due.is("in stage 1", rig.end(0, 1, 1), 0);
+        rig.cardIs("it stays", 1, 3, 0, 1);
+        rig.ask(0, 10, 5, 0, 1);
+        Due.is("in stage 2", rig.end(0, 1, 1), 1);
+        Due.is("in stage 0", rig.end(0, 1, 1), 0);
+    }
+
+    private static void endApproved() {
+        Due.sentence(PART, "its answer is 2 if the word is 1 and the seal is good for the host's key for it and "
+            + "8, card, counter, word: it writes row 0 then");
         Rig rig = beforeEnd();
-        Due.is("END", rig.x.deliver(0), 1);
+        Due.is("END is taken", rig.x.deliver(0), 1);
         Due.is("LAST", rig.newestKind(), Rig.LAST);
         Due.is("LAST 2", rig.newest(Rig.F_ANSWER), 2);
-        tellsOf("END", rig, 2, 3, 0, 0);
+        rig.cardIs("its row begins anew", 2, 3, 0, 0);
         rig.deliver(1);
         Due.is("approved", rig.x.outcome(0), 1);
+        rig.x.purchase(0, 0, 40, 0);
+        rig.deliver(3);
+        Due.is("it answers 2 again", rig.newest(Rig.F_ANSWER), 2);
+        Rig zero = Rig.with(Rig.END);
+        zero.x.power(0, 0);
+        zero.deliver(1);
+        Due.is("a row of 0 is written, too", zero.x.count(2), 0);
     }
 
     private static void endRefused() {
-        int[][] changes = {{Rig.F_WORD, 0}, {Rig.F_WORD, 2}, {Rig.F_SEAL, 0}, {Rig.F_SEAL, 1}, {Rig.F_SEAL, 1000}};
-        for (int[] change : changes) {
+        Due.sentence(PART, "otherwise 0");
+        long[][] changes = {{Rig.F_WORD, 0}, {Rig.F_WORD, 2}, {Rig.F_WORD, 129}, {Rig.F_WORD, 255}, {Rig.F_SEAL, 0},
+            {Rig.F_SEAL, 1}, {Rig.F_SEAL, 8}, {Rig.F_SEAL, 10}, {Rig.F_SEAL, 4294967295L}};
+        for (long[] change : changes) {
             Rig rig = beforeEnd();
-            rig.change(0, change[0], change[1]);
+            Due.is("the true seal", rig.newest(Rig.F_SEAL), 6);
+            rig.change(0, (int) change[0], change[1]);
             Due.is("END is taken", rig.x.deliver(0), 1);
+            Due.is("LAST", rig.newestKind(), Rig.LAST);
             Due.is("LAST 0", rig.newest(Rig.F_ANSWER), 0);
-            tellsOf("END refused", rig, 2, 3, 1, 0);
-            rig.deliver(1);
-            Due.is("refused", rig.x.outcome(0), 3);
+            rig.cardIs("its row stays", 2, 3, 1, 0);
         }
-        Rig rig = beforeEnd();
-        long seal = rig.newest(Rig.F_SEAL);
-        rig.dropAll();
-        rig.begin(0, 1);
-        rig.ask(0, 40, 1, 0, 1);
-        rig.feedCard(0, Rig.END, Rig.F_SEAL, seal, Rig.F_WORD, 1);
-        Due.is("a word for another counter", rig.newest(Rig.F_ANSWER), 0);
+    }
+
+    private static void endWithSealOfOthers() {
+        Due.sentence(PART, "the seal is good for the host's key for it and 8, card, counter, word");
+        Rig counter = beforeEnd();
+        long seal = counter.newest(Rig.F_SEAL);
+        counter.dropAll();
+        counter.begin(0, 1);
+        counter.ask(0, 40, 1, 0, 1);
+        counter.end(0, seal, 1);
+        Due.is("a word for another counter", counter.newest(Rig.F_ANSWER), 0);
+        Rig word = Rig.with(Rig.REQUEST);
+        word.x.again(0);
+        word.deliver(2);
+        Due.is("a word of 0", word.newest(Rig.F_WORD), 0);
+        word.end(0, word.newest(Rig.F_SEAL), 1);
+        Due.is("the seal of a word of 0", word.newest(Rig.F_ANSWER), 0);
+        Rig zero = Rig.with(Rig.REQUEST);
+        zero.x.again(0);
+        zero.deliver(2);
+        zero.end(0, zero.newest(Rig.F_SEAL), 0);
+        Due.is("a true word of 0", zero.newest(Rig.F_ANSWER), 0);
+        Rig card = Rig.with(Rig.END);
+        seal = card.newest(Rig.F_SEAL);
+        card.x.card(1, 100, 1, 100);
+        card.begin(1, 5);
+        card.ask(1, 90, 5, 0, 1);
+        card.end(1, seal, 1);
+        Due.is("a word for another card", card.newest(Rig.F_ANSWER), 0);
+    }
+
+    private static void stageAfterEnd() {
+        Due.sentence(PART, "LAST with the answer and its seal of 10, answer, amount, un, terminal, counter. Stage 0.");
+        for (int word = 0; word <= 1; word++) {
+            Rig rig = Rig.with(Rig.END);
+            rig.x.again(0);
+            rig.change(0, Rig.F_WORD, word);
+            Due.is("END", rig.x.deliver(0), 1);
+            Due.is("LAST", rig.newest(Rig.F_ANSWER), word * 2);
+            Due.is("stage", rig.x.told(0, 3), 0);
+            Due.is("a second END", rig.x.deliver(0), 0);
+        }
     }
 
     /** The same amount, un and terminal at two counters: each LAST has a seal of its own. */
-    private static void lastAtTwoCounters() {
+    private static void lastIsSealedWithItsCounter() {
+        Due.sentence(PART, "LAST with the answer and its seal of 10, answer, amount, un, terminal, counter");
         Rig rig = oneCard(100, 1);
-        long[] seals = new long[2];
         for (int i = 0; i < 2; i++) {
             rig.begin(0, 5);
             rig.ask(0, 10, 5, 0, 1);
-            rig.feedCard(0, Rig.END, Rig.F_SEAL, 0, Rig.F_WORD, 0);
+            rig.end(0, 0, 0);
             Due.is("LAST 0", rig.newest(Rig.F_ANSWER), 0);
-            seals[i] = rig.newest(Rig.F_SEAL);
+            Due.is("its seal", rig.newest(Rig.F_SEAL), 3 + 3 * i);
         }
-        Due.is("the seal of the first LAST", seals[0], 3);
-        Due.is("the seal of the second LAST", seals[1], 6);
-    }
-
-    private static void stages() {
-        Rig rig = oneCard(100, 1);
-        Due.is("ASK in stage 0", rig.ask(0, 1, 1, 0, 1), 0);
-        Due.is("END in stage 0", rig.feedCard(0, Rig.END, Rig.F_SEAL, 1, Rig.F_WORD, 1), 0);
-        rig.begin(0, 1);
-        Due.is("END in stage 1", rig.feedCard(0, Rig.END, Rig.F_SEAL, 1, Rig.F_WORD, 1), 0);
-        rig.ask(0, 1, 1, 0, 1);
-        Due.is("PIN in stage 2", rig.pin(0, 1), 0);
-        Due.is("ASK in stage 2", rig.ask(0, 1, 1, 0, 1), 0);
-        tellsOf("stage 2", rig, 1, 3, 0, 2);
-        Due.is("BEGIN in stage 2", rig.begin(0, 1), 1);
-        tellsOf("stage 1 again", rig, 2, 3, 0, 1);
-        Due.is("what is thrown away has no answer", rig.x.count(2), 3);
-    }
-
-    private static void powerAtBegin() {
-        Rig rig = oneCard(100, 1);
-        rig.begin(0, 1);
-        rig.ask(0, 1, 1, 0, 1);
-        rig.dropAll();
-        rig.x.power(0, 0);
-        Due.is("P11 it was taken", rig.begin(0, 1), 1);
-        Due.is("P11 nothing is answered", rig.x.count(2), 0);
-        tellsOf("P11 at BEGIN", rig, 1, 3, 0, 0);
-        Due.is("P11 nothing is sealed", rig.x.count(4), 2);
-        rig.begin(0, 1);
-        tellsOf("P11 once", rig, 2, 3, 0, 1);
-    }
-
-    private static void powerAtPin() {
-        int[] pins = {1, 1234, 1234, 1};
-        int[] writes = {0, 0, 1, 1};
-        int[] tries = {3, 3, 2, 2};
-        for (int i = 0; i < 4; i++) {
-            Rig rig = oneCard(100, 1);
-            rig.begin(0, 1);
-            rig.dropAll();
-            rig.x.power(0, writes[i]);
-            Due.is("P11 it was taken", rig.pin(0, pins[i]), 1);
-            boolean lost = i < 3;
-            Due.is("P11 answers to PIN", rig.x.count(2), lost ? 0 : 1);
-            tellsOf("P11 at PIN", rig, 1, tries[i], 0, lost ? 0 : 1);
-        }
-        Rig rig = oneCard(100, 1);
-        rig.begin(0, 1);
-        for (int i = 0; i < 3; i++) {
-            rig.pin(0, 1);
-        }
-        rig.x.power(0, 0);
-        rig.pin(0, 1);
-        Due.is("P11 without tries nothing is written", rig.newest(Rig.F_WAY), 2);
-        tellsOf("P11 without tries", rig, 1, 0, 0, 1);
-    }
-
-    private static void powerAtAsk() {
-        Rig rig = oneCard(100, 1);
-        rig.begin(0, 1);
-        rig.dropAll();
-        rig.x.power(0, 0);
-        Due.is("P11 it was taken", rig.ask(0, 1, 1, 0, 2), 1);
-        Due.is("P11 no ANSWER", rig.x.count(2), 0);
-        tellsOf("P11 at ASK", rig, 1, 3, 0, 0);
-        Due.is("P11 nothing is sealed", rig.x.count(4), 1);
-        rig.begin(0, 1);
-        rig.x.power(0, 0);
-        rig.ask(0, 1, 1, 0, 1);
-        Due.is("P11 an answer of 1 is not written", rig.newest(Rig.F_ANSWER), 1);
-        tellsOf("P11 not yet", rig, 2, 3, 0, 2);
-    }
-
-    private static void powerAtEnd() {
-        Rig rig = beforeEnd();
-        rig.x.power(0, 0);
-        int seals = rig.x.count(4);
-        Due.is("P11 it was taken", rig.x.deliver(0), 1);
-        Due.is("P11 no LAST", rig.x.count(2), 0);
-        tellsOf("P11 at END", rig, 2, 3, 1, 0);
-        Due.is("P11 nothing is sealed", rig.x.count(4), seals);
-        Due.is("P11 the debit stays", rig.x.count(3), 1);
-        Rig refused = beforeEnd();
-        refused.x.power(0, 0);
-        refused.change(0, Rig.F_WORD, 0);
-        refused.deliver(1);
-        Due.is("P11 a LAST 0 is not written", refused.newestKind(), Rig.LAST);
-    }
-
-    private static void powerCounts() {
-        for (int n = 0; n <= 9; n++) {
-            Rig rig = oneCard(100, 1);
-            Due.is("P11 power", rig.x.power(0, n), true);
-            for (int i = 0; i < 12; i++) {
-                rig.begin(0, i);
-                Due.is("P11 lost at " + i, rig.newestKind() == Rig.CARD, i != n);
-                rig.dropAll();
-            }
-            Due.is("P11 one write was not done", rig.x.told(0, 0), 11);
-        }
-        Rig anew = oneCard(100, 1);
-        anew.x.power(0, 1);
-        anew.begin(0, 1);
-        anew.x.power(0, 1);
-        anew.begin(0, 1);
-        Due.is("P11 told anew", anew.x.told(0, 0), 2);
-        anew.begin(0, 1);
-        Due.is("P11 told anew, and lost", anew.x.told(0, 0), 2);
-        anew.x.card(1, 1, 1, 1);
-        anew.x.power(1, 0);
-        anew.begin(0, 1);
-        Due.is("P11 another card", anew.x.told(0, 0), 3);
-    }
-
-    private static void powerRefused() {
-        Rig rig = oneCard(100, 1);
-        Due.is("P11 card below", rig.x.power(-1, 0), false);
-        Due.is("P11 card above", rig.x.power(1, 0), false);
-        Due.is("P11 n below", rig.x.power(0, -1), false);
-        Due.is("P11 n above", rig.x.power(0, 10), false);
-        Due.is("P11 extremes", rig.x.power(Integer.MAX_VALUE, Integer.MIN_VALUE), false);
-        rig.begin(0, 1);
-        Due.is("P11 nothing was told", rig.x.told(0, 0), 1);
-    }
-
-    private static void told() {
-        Rig rig = oneCard(100, 1);
-        Due.is("P16 card below", rig.x.told(-1, 0), -1);
-        Due.is("P16 card above", rig.x.told(1, 0), -1);
-        Due.is("P16 what below", rig.x.told(0, -1), -1);
-        Due.is("P16 what above", rig.x.told(0, 4), -1);
-        Due.is("P16 extremes", rig.x.told(Integer.MIN_VALUE, Integer.MAX_VALUE), -1);
     }
 }

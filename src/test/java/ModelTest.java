@@ -2,10 +2,11 @@ import java.util.ArrayList;
 import java.util.List;
 import java.util.Random;
 
-/** All promises together: long runs of drawn calls, each answered as the plain model answers it. */
+/** All promises together: runs of 512 drawn calls, each answered as the plain model answers it. */
 public final class ModelTest {
-    private static final int RUNS = 300;
+    private static final int RUNS = 4000;
     private static final int CALLS = 512;
+    private static final int CALLS_FOR_LOOKING = 150;
     private static final long[] reached = new long[8];
 
     private final Random random;
@@ -23,15 +24,16 @@ public final class ModelTest {
     }
 
     public static void main(String[] args) {
+        Due.sentence("What it is", "An object is used for at most 512 calls after it has been made");
         for (int seed = 0; seed < RUNS; seed++) {
             new ModelTest(seed).run();
         }
         for (int outcome = 0; outcome <= 4; outcome++) {
-            Due.is("outcome " + outcome + " is reached", reached[outcome] > 10, true);
+            Due.is("outcome " + outcome + " is reached", reached[outcome] > 100, true);
         }
-        Due.is("debits by REQUEST are reached", reached[5] > 100, true);
-        Due.is("debits by CLEAR are reached", reached[6] > 100, true);
-        Due.is("full wires are reached", reached[7] > 0, true);
+        Due.is("debits by REQUEST are reached", reached[5] > 1000, true);
+        Due.is("debits by CLEAR are reached", reached[6] > 1000, true);
+        Due.is("full wires are reached", reached[7] > 100, true);
         Due.end();
     }
 
@@ -45,22 +47,22 @@ public final class ModelTest {
             newTerminal();
         }
         int mischief = random.nextInt(4);
-        while (calls < CALLS) {
+        int end = CALLS - random.nextInt(CALLS_FOR_LOOKING);
+        // A replay of the longest message is 40 calls.
+        while (calls < end - 40) {
             step(mischief);
-            calls++;
-            if (calls % 8 == 0) {
-                compareAll();
-            }
         }
-        compareAll();
+        lookAtAll();
+        remember();
     }
 
     private void same(String call, long got, long want) {
+        calls++;
         Due.is(name + ", call " + calls + ", " + call, got, want);
     }
 
     private void same(String call, boolean got, boolean want) {
-        Due.is(name + ", call " + calls + ", " + call, got, want);
+        same(call, Due.bit(got), Due.bit(want));
     }
 
     private int number(int many) {
@@ -68,7 +70,7 @@ public final class ModelTest {
     }
 
     private int place() {
-        return random.nextInt(4) > 0 ? 0 : number(x.count(2));
+        return random.nextInt(4) > 0 ? 0 : number(model.count(2));
     }
 
     private long amount() {
@@ -91,32 +93,33 @@ public final class ModelTest {
     }
 
     private void step(int mischief) {
-        int draw = random.nextInt(100);
+        int draw = random.nextInt(110);
         if (draw < 64 && crowded && random.nextBoolean()) {
-            again(number(x.count(2)));
+            again(number(model.count(2)));
         } else if (draw < 64) {
             deliver(place());
         } else if (draw < 76) {
             purchase();
         } else if (draw < 80) {
-            int t = number(x.count(1));
+            int t = number(model.count(1));
             same("clear " + t, x.clear(t), model.clear(t));
         } else if (draw < 82 || mischief == 0) {
-            int n = random.nextInt(15);
-            same("tick " + n, x.tick(n), model.tick(n));
+            tick(random.nextInt(15));
         } else if (draw < 84) {
-            int c = number(x.count(0));
+            int c = number(model.count(0));
             int n = random.nextInt(4);
             same("power", x.power(c, n), model.power(c, n));
         } else if (draw < 88) {
-            again(number(x.count(2)));
+            again(number(model.count(2)));
         } else if (draw < 90 || mischief == 1) {
-            int k = number(x.count(2));
+            int k = number(model.count(2));
             same("drop " + k, x.drop(k), model.drop(k));
         } else if (draw < 94 || mischief == 2) {
             alter();
         } else if (draw < 99) {
             replay();
+        } else if (draw < 109) {
+            look();
         } else if (random.nextBoolean()) {
             newCard();
         } else {
@@ -124,22 +127,28 @@ public final class ModelTest {
         }
     }
 
+    private void tick(int n) {
+        if (!model.leavesOpen(n)) {
+            same("tick " + n, x.tick(n), model.tick(n));
+        }
+    }
+
     private void purchase() {
-        int t = number(x.count(1));
-        int c = number(x.count(0));
+        int t = number(model.count(1));
+        int c = number(model.count(0));
         long amount = amount();
         int pin = 1 + random.nextInt(2);
         same("purchase", x.purchase(t, c, amount, pin), model.purchase(t, c, amount, pin));
     }
 
     private void deliver(int k) {
-        if (x.count(2) == 60) {
+        if (model.count(2) == 60) {
             reached[7]++;
         }
-        int size = Math.max(x.message(k, 4), 0);
+        int size = Math.max(model.message(k, 4), 0);
         int[] letter = new int[size + 4];
         for (int i = 0; i < letter.length; i++) {
-            letter[i] = i < 4 ? x.message(k, i) : x.at(k, i - 4);
+            letter[i] = i < 4 ? model.message(k, i) : model.at(k, i - 4);
         }
         if (size > 0) {
             seen.add(letter);
@@ -153,7 +162,7 @@ public final class ModelTest {
 
     private void alter() {
         int k = place();
-        int i = random.nextInt(4) > 0 ? 2 + random.nextInt(16) : number(x.message(k, 4));
+        int i = random.nextInt(4) > 0 ? 2 + random.nextInt(16) : number(model.message(k, 4));
         int v = random.nextInt(4) > 0 ? random.nextInt(4) : random.nextInt(258) - 1;
         same("alter", x.alter(k, i, v), model.alter(k, i, v));
     }
@@ -179,38 +188,56 @@ public final class ModelTest {
             model.inject(letter[0], letter[1], letter[2], letter[3]));
     }
 
-    private void compareAll() {
-        for (int what = -1; what <= 6; what++) {
+    /** One call that asks. */
+    private void look() {
+        int c = number(model.count(0));
+        int k = random.nextBoolean() ? model.count(2) - 1 : number(model.count(2));
+        int d = number(model.count(3));
+        int t = number(model.count(1));
+        int what = random.nextInt(9) - 1;
+        int i = number(model.message(k, 4));
+        switch (random.nextInt(8)) {
+            case 0 -> same("count " + what, x.count(what), model.count(what));
+            case 1 -> same("outcome " + t, x.outcome(t), model.outcome(t));
+            case 2 -> same("account " + c, x.account(c), model.account(c));
+            case 3 -> same("told " + c + ", " + what, x.told(c, what), model.told(c, what));
+            case 4 -> same("debit " + d + ", " + what, x.debit(d, what), model.debit(d, what));
+            case 5 -> same("message " + k + ", " + what, x.message(k, what), model.message(k, what));
+            case 6 -> same("at " + k + ", " + i, x.at(k, i), model.at(k, i));
+            default -> same("matched", x.matched(), model.matched());
+        }
+    }
+
+    /** As much as the calls that are left can ask, what was last first. */
+    private void lookAtAll() {
+        for (int what = 0; what <= 5 && calls < CALLS; what++) {
             same("count " + what, x.count(what), model.count(what));
         }
-        for (int t = -1; t <= x.count(1); t++) {
+        for (int t = 0; t < model.count(1) && calls < CALLS; t++) {
             same("outcome " + t, x.outcome(t), model.outcome(t));
-            if (t >= 0 && t < x.count(1)) {
-                reached[x.outcome(t)]++;
+        }
+        for (int i = 0; i < 5 * model.count(0) && calls < CALLS; i++) {
+            int c = i / 5;
+            if (i % 5 == 4) {
+                same("account " + c, x.account(c), model.account(c));
+            } else {
+                same("told " + c + ", " + i % 5, x.told(c, i % 5), model.told(c, i % 5));
             }
         }
-        for (int c = -1; c <= x.count(0); c++) {
-            same("account " + c, x.account(c), model.account(c));
-            for (int what = -1; what <= 4; what++) {
-                same("told " + c + ", " + what, x.told(c, what), model.told(c, what));
-            }
+        for (int i = 7 * model.count(3) - 1; i >= 0 && calls < CALLS; i--) {
+            same("debit " + i / 7 + ", " + i % 7, x.debit(i / 7, i % 7), model.debit(i / 7, i % 7));
         }
-        for (int k = -1; k <= x.count(3); k++) {
-            for (int what = -1; what <= 7; what++) {
-                same("debit " + k + ", " + what, x.debit(k, what), model.debit(k, what));
-            }
-            if (x.debit(k, 6) > 0) {
-                reached[4 + (int) x.debit(k, 6)]++;
-            }
+        while (calls < CALLS) {
+            look();
         }
-        for (int k = -1; k <= x.count(2); k++) {
-            for (int what = -1; what <= 5; what++) {
-                same("message " + k + ", " + what, x.message(k, what), model.message(k, what));
-            }
-            for (int i = -1; i <= x.message(k, 4); i++) {
-                same("at " + k + ", " + i, x.at(k, i), model.at(k, i));
-            }
+    }
+
+    private void remember() {
+        for (int t = 0; t < model.count(1); t++) {
+            reached[model.outcome(t)]++;
         }
-        same("matched", x.matched(), model.matched());
+        for (int k = 0; k < model.count(3); k++) {
+            reached[4 + (int) model.debit(k, 6)]++;
+        }
     }
 }

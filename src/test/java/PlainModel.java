@@ -427,8 +427,22 @@ final class PlainModel {
         for (long[] fields : batches.get(terminal)) {
             came += sendSealed(terminal, 11, fields) ? 1 : 0;
         }
+        if (!batches.get(terminal).isEmpty()) {
+            terminals.get(terminal).set("cleared", now);
+        }
         batches.get(terminal).clear();
         return came;
+    }
+
+    /** Whether so many ticks end a wait only if a CLEAR is not among what the terminal "sent last": that is not told. */
+    boolean leavesOpen(int n) {
+        long then = now + n;
+        for (Values t : terminals) {
+            if (t.of("waits") != 0 && then - t.of("sent") > 20 && then - t.of("cleared") <= 20) {
+                return true;
+            }
+        }
+        return false;
     }
 
     int count(int what) {

@@ -1,3 +1,5 @@
+import java.util.Arrays;
+
 /** An object under test, with what tests do at its wires. */
 final class Rig {
     static final int BEGIN = 1;
@@ -95,31 +97,56 @@ final class Rig {
         }
     }
 
-    /** Puts a kind and pairs of tag and value onto the stranger's row. */
-    void row(int kind, long... tagsAndValues) {
-        x.put(kind);
+    /** The bytes of message k. */
+    int[] bytes(int k) {
+        int[] bytes = new int[Math.max(x.message(k, 4), 0)];
+        for (int i = 0; i < bytes.length; i++) {
+            bytes[i] = x.at(k, i);
+        }
+        return bytes;
+    }
+
+    /** The bytes of a message with a kind and pairs of tag and value. */
+    static int[] form(int kind, long... tagsAndValues) {
+        int size = 1;
         for (int p = 0; p < tagsAndValues.length; p += 2) {
-            int tag = (int) tagsAndValues[p];
-            x.put(tag);
-            x.put(LENGTH[tag]);
-            for (int i = LENGTH[tag] - 1; i >= 0; i--) {
-                x.put((int) (tagsAndValues[p + 1] >> 8 * i & 255));
+            size += 2 + LENGTH[(int) tagsAndValues[p]];
+        }
+        int[] bytes = new int[size];
+        bytes[0] = kind;
+        int next = 1;
+        for (int p = 0; p < tagsAndValues.length; p += 2) {
+            int length = LENGTH[(int) tagsAndValues[p]];
+            bytes[next++] = (int) tagsAndValues[p];
+            bytes[next++] = length;
+            for (int i = length - 1; i >= 0; i--) {
+                bytes[next++] = (int) (tagsAndValues[p + 1] >> 8 * i & 255);
             }
+        }
+        return bytes;
+    }
+
+    void put(int... bytes) {
+        for (int b : bytes) {
+            x.put(b);
         }
     }
 
-    /** The stranger sends to a card in the name of terminal 0 and it comes at once: what deliver answers. */
-    int feedCard(int card, int kind, long... tagsAndValues) {
-        row(kind, tagsAndValues);
-        x.inject(1, 0, 0, card);
+    /** The stranger's message comes at once: what deliver answers. */
+    int feed(int fromSort, int from, int toSort, int to, int... bytes) {
+        put(bytes);
+        Due.is("the stranger's message is on the wires", x.inject(fromSort, from, toSort, to), true);
         return x.deliver(x.count(2) - 1);
     }
 
-    /** The stranger sends to a terminal in the name of card 0 and it comes at once: what deliver answers. */
+    /** The stranger sends to a card in the name of terminal 0. */
+    int feedCard(int card, int kind, long... tagsAndValues) {
+        return feed(1, 0, 0, card, form(kind, tagsAndValues));
+    }
+
+    /** The stranger sends to a terminal in the name of card 0. */
     int feedTerminal(int terminal, int kind, long... tagsAndValues) {
-        row(kind, tagsAndValues);
-        x.inject(0, 0, 1, terminal);
-        return x.deliver(x.count(2) - 1);
+        return feed(0, 0, 1, terminal, form(kind, tagsAndValues));
     }
 
     int begin(int card, long un) {
@@ -143,10 +170,65 @@ final class Rig {
         return x.at(x.count(2) - 1, 0);
     }
 
+    int end(int card, long seal, int word) {
+        return feedCard(card, END, F_SEAL, seal, F_WORD, word);
+    }
+
     void dropAll() {
-        for (int i = 0; i < 60; i++) {
-            x.drop(0);
+        for (int i = 0; i < 60 && x.drop(0); i++) {
         }
+    }
+
+    /** So many messages wait then. */
+    void fillTo(int many) {
+        for (int i = x.count(2); i < many; i++) {
+            x.again(0);
+        }
+        Due.is("so many wait", x.count(2), many);
+    }
+
+    void goesFromTo(String name, int fromSort, int from, int toSort, int to) {
+        int k = x.count(2) - 1;
+        Due.is(name + ", sort from", x.message(k, 0), fromSort);
+        Due.is(name + ", from", x.message(k, 1), from);
+        Due.is(name + ", sort to", x.message(k, 2), toSort);
+        Due.is(name + ", to", x.message(k, 3), to);
+    }
+
+    void cardIs(String name, int counter, int tries, int row, int stage) {
+        Due.is(name + ", counter", x.told(0, 0), counter);
+        Due.is(name + ", tries", x.told(0, 1), tries);
+        Due.is(name + ", row", x.told(0, 2), row);
+        Due.is(name + ", stage", x.told(0, 3), stage);
+    }
+
+    /** All that can be asked of the object, as a text. */
+    String picture() {
+        StringBuilder text = new StringBuilder();
+        for (int what = 0; what <= 5; what++) {
+            text.append(x.count(what)).append(' ');
+        }
+        for (int card = 0; card < x.count(0); card++) {
+            text.append("card ").append(x.account(card)).append(' ');
+            for (int what = 0; what <= 3; what++) {
+                text.append(x.told(card, what)).append(' ');
+            }
+        }
+        for (int terminal = 0; terminal < x.count(1); terminal++) {
+            text.append("outcome ").append(x.outcome(terminal)).append(' ');
+        }
+        for (int k = 0; k < x.count(3); k++) {
+            for (int what = 0; what <= 6; what++) {
+                text.append("debit ").append(x.debit(k, what)).append(' ');
+            }
+        }
+        for (int k = 0; k < x.count(2); k++) {
+            for (int what = 0; what <= 3; what++) {
+                text.append("message ").append(x.message(k, what)).append(' ');
+            }
+            text.append(Arrays.toString(bytes(k)));
+        }
+        return text.append(x.matched()).toString();
     }
 
     static long draw(long x) {
